@@ -949,10 +949,10 @@ public final class CarpetCrosses {
             rewind();
             int orders = 0;
             // Each order has a sign of its own at least.
-            for (int i = 0; i <= MOST_SIGNS; i++) {
+            while (orders < MOST_SIGNS && !faulty) {
                 readOrder();
                 orders++;
-                if (faulty || position == length) {
+                if (position == length) {
                     break;
                 }
                 readSeparator();

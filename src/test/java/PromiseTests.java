@@ -476,6 +476,8 @@ public final class PromiseTests {
         due("perform of 60 signs that end too early", performed(x, full), -160);
         due("cross(0, 1)", x.cross(0, 1), 0);
         due("a fault goes before an error", performed(x, "-0;-"), -104);
+        due("an order without a separator", performed(x, "-75t75"), -103);
+        due("an order without a separator, then more", performed(x, "k00000+00@0;t1"), -106);
     }
 
     private static void performOrders() {
