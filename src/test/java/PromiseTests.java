@@ -389,6 +389,11 @@ public final class PromiseTests {
         }
         due("fill(6)", x.fill(6), UNKNOWN);
         due("total(9)", x.total(9), 0);
+        CarpetCrosses z = beginWithRule("9 fill of the empty board", 2);
+        due("fill(0)", z.fill(0), 25);
+        due("cross(0, 2)", z.cross(0, 2), 0);
+        due("cross(1, 2)", z.cross(1, 2), 3);
+        due("total(0)", z.total(0), 25);
         CarpetCrosses y = beginWithRule("9 fill, RULE 2", 2);
         y.lay(1, 0, 16);
         due("total(9)", y.total(9), 2);
@@ -476,6 +481,11 @@ public final class PromiseTests {
         due("perform of 60 signs that end too early", performed(x, full), -160);
         due("cross(0, 1)", x.cross(0, 1), 0);
         due("a fault goes before an error", performed(x, "-0;-"), -104);
+        due("a number above 149", performed(x, "-155"), -103);
+        due("a number above 149", performed(x, "t159;-0"), -103);
+        due("the greatest numbers", performed(x, "k55555;+53@149"), 2);
+        due("colour(5, 3)", x.colour(5, 3), 5);
+        due("cross(1, 2)", x.cross(1, 2), 149);
         due("an order without a separator", performed(x, "-75t75"), -103);
         due("an order without a separator, then more", performed(x, "k00000+00@0;t1"), -106);
     }
@@ -755,6 +765,11 @@ public final class PromiseTests {
         due("cross(0, 3), three apart", x.cross(0, 3), 1);
         x.move(1, 77);
         due("cross(0, 3), three lower", x.cross(0, 3), 1);
+        due("cross(0, 4), three lower", x.cross(0, 4), 1);
+        due("cross(1, 4), three higher", x.cross(1, 4), 1);
+        x.move(1, 44);
+        due("cross(0, 4), three apart round the edge", x.cross(0, 4), 1);
+        due("cross(1, 4), three apart round the edge", x.cross(1, 4), 1);
         x.move(1, 36);
         due("cross(0, 3), four apart", x.cross(0, 3), 0);
         due("lay of a third", x.lay(0, 0, 49), 2);
@@ -823,6 +838,10 @@ public final class PromiseTests {
         due("total(5), five are closed", y.total(5), 6);
         due("total(6)", y.total(6), 125);
         due("cell(80, 3)", y.cell(80, 3), 0);
+        y.shift(10, 5);
+        due("cell(0, 3)", y.cell(0, 3), 0);
+        due("total(5), one is the cell 0", y.total(5), 6);
+        due("total(6), one is the cell 0", y.total(6), 125);
     }
 
     private static void reason() {
@@ -893,6 +912,11 @@ public final class PromiseTests {
             due("bestPlace(" + wrong + ", 0)", x.bestPlace(wrong, 0), UNKNOWN);
             due("bestPlace(0, " + wrong + ")", x.bestPlace(0, wrong), OUT_OF_RANGE);
         }
+        CarpetCrosses y = beginPlain("22 bestPlace, the cell 0");
+        y.lay(0, 0, 17);
+        due("bestPlace(0, 0)", y.bestPlace(0, 0), 0);
+        due("bestPlace(0, 1)", y.bestPlace(0, 1), 3);
+        about = "22 bestPlace";
         x.fill(0);
         due("bestPlace(0, 0) without", x.bestPlace(0, 0), NONE);
         due("bestPlace(0, 1) without", x.bestPlace(0, 1), NONE);
@@ -944,6 +968,15 @@ public final class PromiseTests {
         due("k14123 turned by 2 shows others", x.turn(1, 3), 2);
         due("shifts(0) then", x.shifts(0), 1);
         due("shifts(1) then", x.shifts(1), NONE);
+        for (int arm = 0; arm < 4; arm++) {
+            CarpetCrosses z = beginWithRule("23 shifts, one arm is unlike", 2);
+            due("perform", performed(z, "k00000;k10000;+00@0;+10@75"), 4);
+            due("shifts(0), all are alike", z.shifts(0), 2);
+            due("halfTurn, all are alike", z.halfTurn(), 0);
+            due("paint", z.paint(1, arm, 1), 0);
+            due("shifts(0), the arm " + arm, z.shifts(0), 1);
+            due("halfTurn, the arm " + arm, z.halfTurn(), NONE);
+        }
         CarpetCrosses y = beginWithRule("23 shifts, part upon part", 2);
         y.paint(0, 0, 5);
         y.paint(0, 1, 5);
