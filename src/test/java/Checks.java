@@ -25,6 +25,11 @@ final class Checks {
         }
     }
 
+    /** How many checks there were until now. */
+    int count() {
+        return passed + failed;
+    }
+
     void end() {
         System.out.println(name + ": " + passed + " checks hold, " + failed + " do not");
         if (failed > 0 || passed == 0) {
