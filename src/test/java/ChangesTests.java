@@ -4,7 +4,7 @@ public final class ChangesTests {
     private static final int[] ARMS_OF_77 = {62, 78, 92, 76};
 
     public static void main(String[] args) {
-        Runner.run(ChangesTests.class, 1, 9);
+        Runner.run(ChangesTests.class, 1, 9, args);
     }
 
     // ==== Promise 1: A new object

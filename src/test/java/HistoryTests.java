@@ -1,7 +1,7 @@
 /** Promises 13 to 15, history, with the term "History": the sentences that name a boundary case. */
 public final class HistoryTests {
     public static void main(String[] args) {
-        Runner.run(HistoryTests.class, 13, 15);
+        Runner.run(HistoryTests.class, 13, 15, args);
     }
 
     // ==== "A history of at most 4 states is kept."

@@ -5,7 +5,8 @@ import java.util.TreeSet;
 
 /**
  * Runs the tests of a class: its methods whose names begin with "promise" and two digits, or with "terms".
- * Each of them is given a run of its own, on a new object.
+ * Each of them is given a run of its own, on a new object. If an argument is given, only the tests whose names
+ * begin with it are run.
  */
 final class Runner {
     private final Checks checks;
@@ -15,19 +16,27 @@ final class Runner {
         checks = new Checks(tests.getSimpleName());
     }
 
-    static void run(Class<?> tests, int firstPromise, int lastPromise) {
+    static void run(Class<?> tests, int firstPromise, int lastPromise, String[] arguments) {
         Runner runner = new Runner(tests);
-        for (Method method : tests.getDeclaredMethods()) {
-            String name = method.getName();
-            if (name.startsWith("promise") || name.startsWith("terms")) {
-                runner.runOne(method);
+        if (arguments.length > 0) {
+            runner.runThose(tests, arguments[0]);
+        } else {
+            runner.runThose(tests, "");
+            for (int promise = firstPromise; promise <= lastPromise; promise++) {
+                runner.mustHaveTestsOf(String.format("promise%02d", promise));
             }
-        }
-        for (int promise = firstPromise; promise <= lastPromise; promise++) {
-            runner.mustHaveTestsOf(String.format("promise%02d", promise));
         }
         System.out.println(tests.getSimpleName() + ": " + runner.names.size() + " tests");
         runner.checks.end();
+    }
+
+    private void runThose(Class<?> tests, String begin) {
+        for (Method method : tests.getDeclaredMethods()) {
+            String name = method.getName();
+            if ((name.startsWith("promise") || name.startsWith("terms")) && name.startsWith(begin)) {
+                runOne(method);
+            }
+        }
     }
 
     private void runOne(Method test) {

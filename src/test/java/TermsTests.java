@@ -4,7 +4,7 @@ public final class TermsTests {
     private static final int[] ARMS_OF_77 = {62, 78, 92, 76};
 
     public static void main(String[] args) {
-        Runner.run(TermsTests.class, 1, 0);
+        Runner.run(TermsTests.class, 1, 0, args);
     }
 
     // "An object is used for at most 512 calls after it has been made; what later calls answer is free."

@@ -1,7 +1,7 @@
 /** Promises 10 to 12, texts: the sentences that name a boundary case, with those of the term "Texts". */
 public final class TextsTests {
     public static void main(String[] args) {
-        Runner.run(TextsTests.class, 10, 12);
+        Runner.run(TextsTests.class, 10, 12, args);
     }
 
     /** Each of the texts has the fault at this index. */

@@ -1,7 +1,7 @@
 /** Promises 20 to 24, what could be: the sentences that name a boundary case. */
 public final class WhatCouldBeTests {
     public static void main(String[] args) {
-        Runner.run(WhatCouldBeTests.class, 20, 24);
+        Runner.run(WhatCouldBeTests.class, 20, 24, args);
     }
 
     /** All 30 crosses but one, all arms alike, so that there is one hole, in which a like cross fits. */

@@ -1,7 +1,7 @@
 /** Promises 16 to 19, what there is: the sentences that name a boundary case. */
 public final class WhatThereIsTests {
     public static void main(String[] args) {
-        Runner.run(WhatThereIsTests.class, 16, 19);
+        Runner.run(WhatThereIsTests.class, 16, 19, args);
     }
 
     // ==== Promise 16: colour
